@@ -30,6 +30,7 @@ public final class KitchenCards {
     private static final int SHELVES = 8;
     private static final int MOST_ELEMENTS = 120;
     private static final int UNBOUNDED = 1000000;
+    private static final int WITHOUT_SIGN = 0x7fffffff;
 
     private static final int SOUGHT = 0;
     private static final int GIVEN = 1;
@@ -53,9 +54,6 @@ public final class KitchenCards {
     private static final int SORT_SHORTS = 1;
     private static final int SORT_INTS = 2;
 
-    /** d;c; as bytes: what a TREE does with each NEED. */
-    private static final int[] TREE_TEXT = {'d', ';', 'c', ';'};
-
     /** Of each LETTER the bits of those of the 64 ways in which it is true. */
     private static final long[] LETTER_WAYS = {
         0xAAAAAAAAAAAAAAAAL, 0xCCCCCCCCCCCCCCCCL, 0xF0F0F0F0F0F0F0F0L,
@@ -72,7 +70,7 @@ public final class KitchenCards {
     private final Widest both = new Widest();
     private final Steps steps = new Steps();
     private final Search search = new Search();
-    private final Program treeProgram = new Program(TREE_TEXT.length);
+    private final Program treeProgram = new Program(2);
     private final int[] places = new int[MOST_PROBLEMS];
     private int orderShown = 0;
     private int orderActs = 0;
@@ -81,7 +79,8 @@ public final class KitchenCards {
         for (int d = 0; d < SHELVES; d++) {
             shelves[d] = new Shelf();
         }
-        treeProgram.readText(TREE_TEXT, TREE_TEXT.length);
+        treeProgram.addAct('d');
+        treeProgram.addAct('c');
         treeProgram.stop = UNBOUNDED;
     }
 
@@ -295,7 +294,6 @@ public final class KitchenCards {
             return WRONG;
         }
         search.learnAll(table);
-        search.setSlips(0, 0);
         search.look(treeProgram, told, depth);
         return search.needCount;
     }
@@ -1345,7 +1343,7 @@ public final class KitchenCards {
 
         private boolean isSlip() {
             seed = seed * 1103515245 + 12345;
-            return (seed & Integer.MAX_VALUE) / 65536 % 100 < odds;
+            return (seed & WITHOUT_SIGN) / 65536 % 100 < odds;
         }
 
         private void tryBack(int n, Line need, Line card) {

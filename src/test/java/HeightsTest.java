@@ -5,6 +5,7 @@ public final class HeightsTest {
     public static void main(String[] args) {
         height();
         then();
+        byTheFirst();
         higherOfTwo();
         runsHaveNone();
         ladder();
@@ -54,6 +55,15 @@ public final class HeightsTest {
         heights(x, "half of it", -4, 0, 0, -4);
         Check.given(x, "((svs)>(tvu))");
         heights(x, "this, if this then that", 2, 0, 0, 1, 0);
+    }
+
+    /** b of a step is line 0. */
+    private static void byTheFirst() {
+        KitchenCards x = new KitchenCards();
+        Check.given(x, "((svs)>(tvu))");
+        Check.given(x, "(svs)");
+        Check.line(x, "(tvu)");
+        heights(x, "this, if this then that, the other way round", 0, 0, 1);
     }
 
     private static void higherOfTwo() {
@@ -152,6 +162,8 @@ public final class HeightsTest {
         orders(x, 0, 2, 3 + 5 + 3, 4, 2, 3);
         orders(x, 2, 0, 2 + 2, 2, 3);
         orders(x, 2, 1, 2 + 1 + 3, 2, 5, 3);
+        x.slips(0, 2, 1, 100, 0);
+        orders(x, 0, 1, 5, 2);
         check.due("in mind alone", x.count(2), 0);
         check.due("they are sought still", x.of(2, 5), 0);
         check.due("and run as ever", x.run(0, 3, 1), 5);

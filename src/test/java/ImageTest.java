@@ -5,6 +5,7 @@ public final class ImageTest {
     public static void main(String[] args) {
         image();
         whatIsRestored();
+        theFirstLine();
         shelvesStay();
         emptyImage();
         count();
@@ -66,7 +67,29 @@ public final class ImageTest {
         x.restore();
         x.give(3);
         check.due("given now", x.of(3, 5), 1);
+        check.due("its place", x.of(3, 6), 3);
         check.due("no step of it", x.from(3, 0), -3);
+    }
+
+    /** How the first line is, and how many are known, is restored, too. */
+    private static void theFirstLine() {
+        KitchenCards x = new KitchenCards();
+        Check.line(x, "(pvp)");
+        Check.line(x, "(qvq)");
+        Check.program(x, "m;");
+        x.image();
+        x.give(0);
+        check.due("one act", x.run(0, 1, 1), 1);
+        x.restore();
+        check.due("sought again", x.of(0, 5), 0);
+        check.due("no acts", x.run(0, 1, 1), 0);
+        x.give(1);
+        check.due("the first known one", x.of(1, 6), 0);
+        x.image();
+        x.step(0, 0, 1, 0);
+        x.restore();
+        check.due("sought", x.of(0, 5), 0);
+        check.due("known", x.of(1, 5), 1);
     }
 
     private static void shelvesStay() {
@@ -119,6 +142,9 @@ public final class ImageTest {
         for (int what = 0; what < due.length; what++) {
             check.due("count(" + what + ")", x.count(what), due[what]);
         }
+        KitchenCards y = new KitchenCards();
+        Check.line(y, "(p>p)");
+        check.due("true ones of one line", y.count(5), 1);
         check.due("count(-1)", x.count(-1), -1);
         check.due("count(6)", x.count(6), -1);
         check.due("count(least)", x.count(Integer.MIN_VALUE), -1);

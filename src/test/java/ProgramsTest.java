@@ -257,6 +257,14 @@ public final class ProgramsTest {
         Check.program(z, "c;s2;");
         run(z, 0, Check.line(z, "(q>~~~~~~~~~r)"), 0, 2, 2);
         run(z, 0, Check.line(z, "(q>~~~~~~~~~~r)"), 0, 2, 1);
+        // one that is too big, and then one that isn't
+        KitchenCards v = new KitchenCards();
+        Check.given(v, "(" + Check.times("~", 9) + "p>p)");
+        Check.given(v, "(~p>p)");
+        Check.program(v, "d;s2;");
+        int behind = Check.line(v, Check.times("~", 11) + "q");
+        run(v, 0, behind, 0, 2, 2);
+        check.same("the one that isn't", Check.need(v, 0, behind, 1), Check.times("~", 12) + "q");
         KitchenCards w = new KitchenCards();
         Check.program(w, "m;");
         Check.given(w, "(pvq)");
@@ -336,6 +344,17 @@ public final class ProgramsTest {
         check.due("one is shown", x.count(2), 1);
     }
 
+    /** 38 acts back, 74 of chains, and two that make a need each. */
+    private static void manyActs() {
+        KitchenCards x = new KitchenCards();
+        for (int n = 0; n < 37; n++) {
+            Check.given(x, "((pvq)>(pvq))");
+        }
+        Check.given(x, "(p>~~r)");
+        int line = Check.line(x, "(s>~~t)");
+        check.due("needs by the acts behind the 100th", x.tree(line, 1), 3);
+    }
+
     private static void tree() {
         KitchenCards x = new KitchenCards();
         Check.given(x, "(~p>p)");
@@ -344,6 +363,7 @@ public final class ProgramsTest {
         for (int depth = 0; depth < 10; depth++) {
             check.due("tree to " + depth, x.tree(line, depth), depth + 1);
         }
+        manyActs();
         KitchenCards y = new KitchenCards();
         Check.line(y, "(p>q)");
         check.due("no known ones", y.tree(0, 9), 1);

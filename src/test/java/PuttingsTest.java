@@ -109,11 +109,13 @@ public final class PuttingsTest {
         check.due("b doesn't come of a", x.must(a, c, 'p', 0), -4);
         check.due("nor a of b", x.must(b, a, 'r', 0), -4);
         check.same("of itself", Check.must(x, a, a, 'p'), "p");
+        int letter = Check.line(x, "s");
+        check.same("for a letter that is all", Check.must(x, letter, b, 's'), "((r>s)>(~qv(r>s)))");
         check.due("no letter, below", x.must(a, b, 'o', 0), -1);
         check.due("no letter, above", x.must(a, b, 'v', 0), -1);
         check.due("a number for a byte", x.must(a, b, 0, 0), -1);
         check.due("i below 0", x.must(a, b, 'p', -1), -1);
-        check.due("no a", x.must(3, b, 'p', 0), -1);
+        check.due("no a", x.must(4, b, 'p', 0), -1);
         check.due("no b", x.must(a, -1, 'p', 0), -1);
         check.due("-1 is ahead of -4", x.must(a, c, 'v', 0), -1);
     }
@@ -240,6 +242,14 @@ public final class PuttingsTest {
         check.due("of a run, its kind", x.from(5, 0), 4);
         check.due("of a run, K", x.from(5, 1), 0);
         check.due("of a run, b", x.from(5, 2), -4);
+        KitchenCards y = new KitchenCards();
+        Check.line(y, "q");
+        Check.given(y, "p");
+        Check.given(y, "(p>q)");
+        y.step(0, 1, 1, 2);
+        check.due("line 0, its kind", y.from(0, 0), 1);
+        check.due("line 0, a", y.from(0, 1), 1);
+        check.due("line 0, b", y.from(0, 2), 2);
         check.due("what -1", x.from(2, -1), -1);
         check.due("what 3", x.from(2, 3), -1);
         check.due("no line", x.from(6, 0), -1);
