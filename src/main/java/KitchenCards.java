@@ -1150,7 +1150,8 @@ public final class KitchenCards {
                     return i;
                 }
             }
-            return state == AT_STATEMENT ? NONE : n;
+            // a text without a STATEMENT ends too early, as one in the midst of a STATEMENT does
+            return n > 0 && state == AT_STATEMENT ? NONE : n;
         }
 
         int actAt(int i) {

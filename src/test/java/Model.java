@@ -165,11 +165,11 @@ final class Model {
     private Told readProgram(String told) throws Fault {
         Told program = new Told();
         int i = 0;
-        while (i < told.length()) {
-            char c = told.charAt(i);
-            if ("mdclks".indexOf(c) < 0) {
+        do {
+            if (i >= told.length() || "mdclks".indexOf(told.charAt(i)) < 0) {
                 throw new Fault(i);
             }
+            char c = told.charAt(i);
             i++;
             if (c == 'k' || c == 's') {
                 int start = i;
@@ -194,7 +194,7 @@ final class Model {
                 throw new Fault(i);
             }
             i++;
-        }
+        } while (i < told.length());
         return program;
     }
 

@@ -20,13 +20,13 @@ public final class ProgramsTest {
     }
 
     private static void program() {
-        String[] texts = {"m;", "m;d;c;l;", "k1;", "k999;s1;", "s100;", "s999;", "k10;", "m;m;m;k3;k2;s5;s6;l;l;", ""};
+        String[] texts = {"m;", "m;d;c;l;", "k1;", "k999;s1;", "s100;", "s999;", "k10;", "m;m;m;k3;k2;s5;s6;l;l;", "l;"};
         for (String text : texts) {
             check.due("program " + text, Check.program(new KitchenCards(), text), 0);
         }
-        String[] faulty = {"m", "m;d", "x", ";", "m;;", "m1;", "k", "k;", "k0;", "k01;", "s0", "s00;", "k1", "k12", "k1x", "k1000;",
+        String[] faulty = {"", "m", "m;d", "x", ";", "m;;", "m1;", "k", "k;", "k0;", "k01;", "s0", "s00;", "k1", "k12", "k1x", "k1000;",
             "m;s;", "l2;", "M;", "m d;", "k-1;", "k 1;", "m;k12m;", "k100"};
-        int[] places = {1, 3, 0, 0, 2, 1, 1, 1, 1, 1, 1, 1, 2, 3, 2, 4,
+        int[] places = {0, 1, 3, 0, 0, 2, 1, 1, 1, 1, 1, 1, 1, 2, 3, 2, 4,
             3, 1, 0, 1, 1, 1, 5, 4};
         for (int i = 0; i < faulty.length; i++) {
             check.due("program " + faulty[i], Check.program(new KitchenCards(), faulty[i]), -100 - places[i]);
@@ -41,6 +41,7 @@ public final class ProgramsTest {
         x.row(0, 1, 2);
         check.due("program of shorts", x.program(0), -12);
         check.due("120 bytes", Check.program(x, Check.times("m;", 60)), 0);
+        check.due("an empty text", Check.program(x, ""), -100);
         check.due("refused ones are none", x.count(3), 1);
         for (int n = 1; n < 6; n++) {
             check.due("program " + n, Check.program(x, "d;"), n);
@@ -49,6 +50,7 @@ public final class ProgramsTest {
         check.due("no room is ahead of -11", x.program(1), -2);
         check.due("no room is ahead of -12", x.program(0), -2);
         check.due("no room is ahead of a fault", Check.program(x, "x"), -2);
+        check.due("no room is ahead of an empty text", Check.program(x, ""), -2);
         check.due("-1 is ahead of no room", x.program(8), -1);
     }
 
@@ -76,7 +78,7 @@ public final class ProgramsTest {
         check.due("lines stay sought", y.of(0, 5), 0);
         Check.program(y, "l;k3;s9;");
         run(y, 1, 0, 0, 0, 1, -4, -4);
-        Check.program(y, "");
+        Check.program(y, "l;");
         run(y, 2, 0, 0, 0, 1, -4, -4);
     }
 
