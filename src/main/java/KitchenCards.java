@@ -861,7 +861,7 @@ public final class KitchenCards {
 
     /** Writes a part of a line as text, with its parentheses. */
     private static final class Writer {
-        /** Each sign writes at most two bytes. */
+        /** A text has fewer than two bytes a sign: v and > alone bring two parentheses, and there are more letters than those. */
         private final byte[] text = new byte[2 * WIDEST_SIZE];
         /** Of each open sign what is to be written behind its next part; of ~ that is nothing. */
         private final int[] pending = new int[WIDEST_SIZE];

@@ -1,5 +1,7 @@
 /** What the tests share: counts what is wrong, lays texts on shelves. */
 final class Check {
+    static final int[] NO_SHELF = {-1, 8, Integer.MIN_VALUE, Integer.MAX_VALUE};
+
     private final String name;
     private int wrong = 0;
 
@@ -103,5 +105,36 @@ final class Check {
             text.append(part);
         }
         return text.toString();
+    }
+
+    /** An object with these lines, all sought. */
+    static KitchenCards with(String... lines) {
+        KitchenCards x = new KitchenCards();
+        for (String text : lines) {
+            line(x, text);
+        }
+        return x;
+    }
+
+    /** ( ~..~ p v ~..~ q ) with so many ~ on the left and right; a line of left + right + 5 bytes. */
+    static String wide(int left, int right) {
+        return "(" + times("~", left) + "pv" + times("~", right) + "q)";
+    }
+
+    /** A line of 60 bytes: SIZE 50, 13 LEVELS. */
+    static String sixty() {
+        return "(" + wide(10, 10) + "v(" + wide(9, 9) + "v" + wide(0, 1) + "))";
+    }
+
+    /** What element throws: 1 IllegalArgumentException, 2 IllegalStateException, 0 nothing. */
+    static int thrown(KitchenCards x, int d, int i) {
+        try {
+            x.element(d, i);
+            return 0;
+        } catch (IllegalArgumentException none) {
+            return 1;
+        } catch (IllegalStateException none) {
+            return 2;
+        }
     }
 }

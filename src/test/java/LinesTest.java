@@ -51,10 +51,10 @@ public final class LinesTest {
         check.due("~ in 12", Check.fault(Check.times("~(", 6) + "~p"), 12);
         check.due("a ~ shuts with its part", Check.fault("(" + Check.times("~", 11) + "pv" + Check.times("~", 11) + "q)"), -4);
         check.due("one ~ too many on the right", Check.fault("(" + Check.times("~", 11) + "pv" + Check.times("~", 12) + "q)"), 25);
-        String sixty = "(" + wide(10, 10) + "v(" + wide(9, 9) + "v" + wide(0, 1) + "))";
+        String sixty = Check.sixty();
         check.due("60 bytes in the test", sixty.length(), 60);
         check.due("60 bytes", Check.fault(sixty), -4);
-        String sixtyOne = "(" + wide(10, 10) + "v(" + wide(9, 9) + "v" + wide(1, 1) + "))";
+        String sixtyOne = "(" + Check.wide(10, 10) + "v(" + Check.wide(9, 9) + "v" + Check.wide(1, 1) + "))";
         check.due("61 bytes in the test", sixtyOne.length(), 61);
         check.due("61 bytes", Check.fault(sixtyOne), 60);
         check.due("120 bytes", Check.fault(sixtyOne + sixtyOne.substring(2)), 60);
@@ -77,11 +77,6 @@ public final class LinesTest {
         x.row(0, 0, 1);
         x.put(0, 0, 'p' + 256);
         check.due("a byte keeps its lowest bits", x.fault(0), -4);
-    }
-
-    /** ( ~..~ L v ~..~ L ) with so many ~ on the left and right; a line of left + right + 5 bytes. */
-    private static String wide(int left, int right) {
-        return "(" + Check.times("~", left) + "pv" + Check.times("~", right) + "q)";
     }
 
     private static void line() {

@@ -2,8 +2,10 @@ import java.util.Random;
 
 /** All promises: runs of calls drawn by seeds, each answer compared with the model's. */
 public final class ModelTest {
-    private static final int RUNS = 150;
+    private static final int RUNS = 400;
     private static final int CALLS = 512;
+    /** No act takes more calls: a text of 120 bytes laid, and what is asked of it. */
+    private static final int DEAREST = 130;
     private static final Check check = new Check("ModelTest");
 
     private final Random random;
@@ -33,7 +35,7 @@ public final class ModelTest {
             newLine(random.nextInt(3) > 0);
         }
         newProgram();
-        while (calls < CALLS - 60) {
+        while (calls < CALLS - DEAREST) {
             act();
         }
     }
@@ -185,6 +187,7 @@ public final class ModelTest {
     /** Lays a text in both, without a look at each call's answer (the shelves have their own calls). */
     private void lay(int d, String told) {
         String text = told.length() > 120 ? told.substring(0, 120) : told;
+        calls += 1 + text.length();
         x.row(d, 0, text.length());
         model.row(d, 0, text.length());
         for (int i = 0; i < text.length(); i++) {
@@ -210,6 +213,7 @@ public final class ModelTest {
 
     private void layRow() {
         int n = random.nextInt(5);
+        calls += 1 + n;
         x.row(2, 0, n);
         model.row(2, 0, n);
         for (int i = 0; i < n; i++) {

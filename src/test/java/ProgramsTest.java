@@ -349,8 +349,9 @@ public final class ProgramsTest {
     /** 38 acts back, 74 of chains, and two that make a need each. */
     private static void manyActs() {
         KitchenCards x = new KitchenCards();
+        Check.lay(x, 0, "((pvq)>(pvq))");
         for (int n = 0; n < 37; n++) {
-            Check.given(x, "((pvq)>(pvq))");
+            x.give(x.line(0));
         }
         Check.given(x, "(p>~~r)");
         int line = Check.line(x, "(s>~~t)");

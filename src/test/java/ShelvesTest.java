@@ -95,34 +95,22 @@ public final class ShelvesTest {
         check.due("place far behind", x.put(0, Integer.MAX_VALUE, 0), -13);
     }
 
-    /** 0: an element; 1: IllegalArgumentException; 2: IllegalStateException. */
-    private static int thrown(KitchenCards x, int d, int i) {
-        try {
-            x.element(d, i);
-            return 0;
-        } catch (IllegalArgumentException none) {
-            return 1;
-        } catch (IllegalStateException none) {
-            return 2;
-        }
-    }
-
     private static void element() {
         KitchenCards x = new KitchenCards();
         x.row(0, 2, 3);
         x.put(0, 2, -77);
         check.due("element", x.element(0, 2), -77);
-        check.due("an element", thrown(x, 0, 0), 0);
-        check.due("shelf -1", thrown(x, -1, 0), 1);
-        check.due("shelf 8", thrown(x, 8, 0), 1);
-        check.due("shelf least", thrown(x, Integer.MIN_VALUE, -1), 1);
-        check.due("nothing", thrown(x, 1, 0), 2);
-        check.due("place -1", thrown(x, 0, -1), 2);
-        check.due("place 3", thrown(x, 0, 3), 2);
-        check.due("place most", thrown(x, 0, Integer.MAX_VALUE), 2);
+        check.due("an element", Check.thrown(x, 0, 0), 0);
+        check.due("shelf -1", Check.thrown(x, -1, 0), 1);
+        check.due("shelf 8", Check.thrown(x, 8, 0), 1);
+        check.due("shelf least", Check.thrown(x, Integer.MIN_VALUE, -1), 1);
+        check.due("nothing", Check.thrown(x, 1, 0), 2);
+        check.due("place -1", Check.thrown(x, 0, -1), 2);
+        check.due("place 3", Check.thrown(x, 0, 3), 2);
+        check.due("place most", Check.thrown(x, 0, Integer.MAX_VALUE), 2);
         Check.line(x, "p");
         x.keep(2, 1, 0, 0);
-        check.due("a card", thrown(x, 2, 0), 2);
+        check.due("a card", Check.thrown(x, 2, 0), 2);
     }
 
     private static void rows(KitchenCards x, int d, String what, int... due) {
