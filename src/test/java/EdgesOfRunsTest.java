@@ -12,6 +12,7 @@ public final class EdgesOfRunsTest {
         promise14Numbers();
         promise15();
         promise15Needs();
+        promise15Wide();
         promise16();
         promise17();
         promise18();
@@ -138,6 +139,26 @@ public final class EdgesOfRunsTest {
         z.give(2);
         // q: 2, and one of d; so are ~q, ~~q; ~~~q comes of the second one
         runs("15: DEPTH 3", z, 1, 0, 1, 3 * 3 + 2, 4, 3, 2);
+    }
+
+    /** "its SIZE is above 20" is said of what comes on the list: the LINE itself, the first NEED, may be as wide as a LINE can be. */
+    private static void promise15Wide() {
+        KitchenCards x = Check.with(Check.sixty(), Check.sixty());
+        x.give(0);
+        Check.program(x, "m;");
+        runs("15: a LINE of 60 bytes comes of itself", x, 0, 1, 1, 1, 1, 0, 0);
+        check.due("16: NEED 0 of 60 bytes, the last one", x.need(0, 1, 0, 59), ')');
+        check.due("16: -4, behind the 60th", x.need(0, 1, 0, 60), -4);
+        KitchenCards y = Check.with("((pvq)>s)", "(" + Check.wide(9, 9) + ">r)", "(" + Check.wide(9, 9) + ">(r>r))");
+        y.give(0);
+        Check.program(y, "c;");
+        // (s>r), of SIZE 3, and (s>(pvq)) from that; with the A of 21 signs ahead none fits
+        runs("15: NEEDS from a LINE of SIZE 23", y, 0, 1, 0, 6, 3, -4, -4);
+        check.same("15: what comes on the list", Check.need(y, 0, 1, 1), "(s>r)");
+        // and (pvq) by d
+        check.due("18: a TREE of it", y.tree(1, 1), 3);
+        Check.layBytes(y, 0, 1, 2);
+        check.due("21: ORDERS of wide ones", y.order(0, 0, 1), 12);
     }
 
     private static void promise16() {
