@@ -682,7 +682,7 @@ public final class KitchenCards {
         }
 
         int unlikeAt(int i) {
-            return Integer.bitCount(lettersAt(i));
+            return i >= 0 && i < size && i < letters.length ? Integer.bitCount(letters[i]) : 0;
         }
 
         private int lettersAt(int i) {

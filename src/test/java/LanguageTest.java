@@ -1,3 +1,5 @@
+import java.lang.reflect.Field;
+import java.lang.reflect.Modifier;
 import java.nio.file.Files;
 import java.nio.file.Path;
 import java.util.HashSet;
@@ -22,6 +24,7 @@ public final class LanguageTest {
         signs(lines);
         words(code);
         methods(lines);
+        classes();
         check.end();
     }
 
@@ -52,6 +55,29 @@ public final class LanguageTest {
         check.same("a static field that isn't final", fields.find() ? fields.group() : "", "");
         int classes = code.split("\\b(class|enum|interface|record) \\w").length - 1;
         check.due("some twelve classes: " + classes, classes <= 12 ? 1 : 0, 1);
+    }
+
+    private static void classes() {
+        check.due("fields of the class", ownFields(KitchenCards.class) <= 20 ? 1 : 0, 1);
+        for (Class<?> inside : KitchenCards.class.getDeclaredClasses()) {
+            int marks = inside.getModifiers();
+            check.due(inside.getName() + " is static, and not open", Modifier.isStatic(marks)
+                && !Modifier.isPublic(marks) && !Modifier.isProtected(marks) ? 1 : 0, 1);
+            check.due("fields of " + inside.getName(), ownFields(inside) <= 20 ? 1 : 0, 1);
+        }
+    }
+
+    /** Fields beside constants; a static one must be a constant. */
+    private static int ownFields(Class<?> told) {
+        int sum = 0;
+        for (Field field : told.getDeclaredFields()) {
+            if (Modifier.isStatic(field.getModifiers())) {
+                check.due(told.getName() + "." + field.getName() + " is final", Modifier.isFinal(field.getModifiers()) ? 1 : 0, 1);
+            } else {
+                sum++;
+            }
+        }
+        return sum;
     }
 
     private static void methods(List<String> lines) {
